@@ -164,6 +164,9 @@ final class DayTest {
         y.set(0, 2);
         y.person(25, 0, 0, 0);
         fate("who goes now still sits when others come", y, 4, TURNED, 0, NONE, NONE);
+        NodBench v = new NodBench();
+        Due.people(v, "1t0:5;0p3;0p3");
+        fate("the first told", v, 0, GONE, 5, NONE, NONE);
         NodBench z = busy("200c0:2;230t0:10");
         z.set(5, 13);
         z.person(225, 0, 3, 0);
@@ -192,6 +195,13 @@ final class DayTest {
         NodBench v = new NodBench();
         Due.people(v, "200p3;200p3;210o0:99");
         fate("out till the end", v, 2, VAIN, 30, NONE, NONE);
+        NodBench w = new NodBench();
+        Due.people(w, "3o0:20;0p3;0p3;4p0");
+        w.set(6, 0);
+        fate("the first told is out", w, 0, CUT, 33, 36, 1);
+        due.is("15 the first told sits", w.at(7, 1), 2);
+        due.is("15 the first told is out", w.at(8, 1), 1);
+        due.is("16 the first told waits most", w.day(2), 33);
     }
 
     private static void places() {
@@ -303,6 +313,20 @@ final class DayTest {
         fate("two told, one by place: no ring", y, 3, CUT, 28, 30, 0);
         fate("two told, one by place: no ring", y, 2, CUT, 35, 36, 1);
         due.is("16 no quarrel", y.day(7), 0);
+        NodBench v = new NodBench();
+        Due.people(v, "3p0;2p0;0p3;0p3");
+        fate("the second told came first", v, 1, CUT, 28, 30, 0);
+        due.is("16 not before whom it came behind", v.day(7), 0);
+        NodBench w = new NodBench();
+        Due.people(w, "1p0;2t0:99;3l0:3;0p3;0p3");
+        Due.manners(w, "pt,tl,lp");
+        fate("the first told in a ring", w, 0, CUT, 29, 30, 0);
+        due.is("16 with the first told", w.day(7), 1);
+        NodBench u = new NodBench();
+        Due.people(u, "9l0:2;2p0;2t0:99;0p3;0p3");
+        Due.manners(u, "pt,tl");
+        fate("like places in a ring: the lesser number", u, 0, CUT, 21, 30, 0);
+        due.is("16 like places in a ring", u.day(7), 1);
         NodBench z = busy("1p0;2t0:99;3l0:0");
         Due.manners(z, "pt,tl");
         fate("two told, one by place: the least place", z, 4, CUT, 27, 30, 0);
@@ -322,6 +346,17 @@ final class DayTest {
         y.cut(0, 0, 60);
         y.price(0, 0);
         fate("by that cutter's need", y, 3, CUT, 28, 30, 0);
+        NodBench v = new NodBench();
+        Due.people(v, "3p1;2p1;0p3;0p3");
+        v.set(7, 2);
+        fate("like ones by place, not by number", v, 1, CUT, 28, 30, 0);
+        v.cut(0, 1, 30);
+        v.strike(1);
+        v.person(4, 0, 2, 0);
+        v.cut(0, 2, 29);
+        fate("one minute shorter", v, 3, CUT, 26, 30, 0);
+        v.cut(0, 2, 31);
+        fate("one minute longer", v, 0, CUT, 27, 30, 0);
         NodBench z = busy("1p1;2p0");
         z.set(7, 2);
         z.cut(0, 1, 1);
@@ -364,5 +399,22 @@ final class DayTest {
         due.is("waits", x.day(1), 3);
         x.set(3, 2);
         due.is("waits", x.day(1), 5);
+        x.person(200, 0, 0, 0);
+        due.is("one more", x.day(5), 4);
+        x.set(3, 0);
+        due.is("waits", x.day(1), 3);
+        x.cut(0, 0, 4);
+        due.is("waits", x.day(1), 4);
+        x.price(0, 1);
+        due.is("coin", x.day(0), 4);
+        x.restore();
+        due.is("waits as then", x.day(1), 10);
+        x.set(7, 2);
+        Due.people(x, "0t3:20");
+        due.is("by shorter", x.fate(3, 1), 12);
+        x.set(7, 1);
+        due.is("by place", x.fate(3, 1), 12);
+        Due.manners(x, "tp");
+        due.is("by manners", x.fate(3, 1), 0);
     }
 }

@@ -167,6 +167,12 @@ final class SheetTest {
     }
 
     private static void filmOfBytes() {
+        NodBench y = new NodBench();
+        Due.people(y, "3p0;0p3;0p3");
+        y.sheet(3, 1, 4);
+        y.film(3, 1, 0);
+        due.is("36 the first one's, too", y.crowd(3, 1, 0, 1), 1);
+        due.is("36 the first one's, too", y.told(3, 0), 27);
         NodBench x = new NodBench();
         Due.people(x, "0p3;0p3;3p0;0c0:2");
         for (int lane = 0; lane < 3; lane++) {

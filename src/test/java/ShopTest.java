@@ -145,13 +145,36 @@ final class ShopTest {
         due.is("7 the last of all", x.strike(0), 0);
         due.is("7 nobody is left", x.strike(0), BAD);
         due.is("7 nobody comes", x.day(5), 0);
+        strikeOneOfMany();
+    }
+
+    private static void strikeOneOfMany() {
+        NodBench x = new NodBench();
+        Due.people(x, "1c0:1;2g1:2;3o2:33;4l3:3;5t0:55;6p1");
+        x.word(1, 0);
+        x.word(5, 2);
+        x.word(2, 5);
+        due.is("7 five are left", x.strike(1), 5);
+        int[][] want = {{1, 1, 0, 1}, {3, 3, 2, 33}, {4, 4, 3, 3}, {5, 5, 0, 55}, {6, 0, 1, 0}};
+        for (int p = 0; p < 5; p++) {
+            for (int what = 0; what < 4; what++) {
+                due.is("7 told " + p + " " + what, x.told(p, what), want[p][what]);
+            }
+        }
+        due.is("7 the first word names it", x.count(2), 2);
+        due.is("7 the words behind it", x.drops(), 1);
+        x.hush();
+        x.word(0, 4);
+        x.strike(4);
+        due.is("7 a word that names it second", x.count(2), 0);
     }
 
     private static void type() {
         NodBench x = new NodBench();
         due.is("8 none", x.type('p', 0), BAD);
         due.is("8 too many", x.type('p', 9), BAD);
-        due.is("8 too many", x.type('p', Integer.MIN_VALUE), BAD);
+        due.is("8 too many", x.type(0x2020202020202020L, 9), BAD);
+        due.is("8 far below", x.type('p', Integer.MIN_VALUE), BAD);
         due.is("8 below a blank", x.type(31, 1), BAD);
         due.is("8 above a tilde", x.type(127, 1), BAD);
         due.is("8 a byte far above", x.type(0x70F0, 2), BAD);

@@ -85,6 +85,25 @@ final class WouldBeTest {
         due.is("18 none", v.tell(1), 0);
         v.cut(0, 0, 11);
         due.is("18 eleven off is one", v.tell(0), 5);
+        NodBench u = with("0c0:2;0p3;0p3");
+        Due.people(u, "1c0:2");
+        u.set(5, 2);
+        u.person(56, 1, 0, 2);
+        // At 1 the two choosers are enough for 2: one waits 1 minute, one 55 till two wait again.
+        due.is("18 waits", u.fate(3, 1), 55);
+        NodBench s = with("0p3;0p3;1t0:69;1t0:65;1t0:64;1t0:60");
+        s.cut(0, 3, 60);
+        s.cut(1, 3, 60);
+        s.set(7, 0);
+        // They wait 59, 59, 64 and 60.
+        due.is("18 near all four", s.tell(0), 55);
+        due.is("18 two did not wait", s.tell(1), 2);
+        NodBench r = with("0g3:3;0g3:3;1t0:70;1t0:70");
+        Due.people(r, "1t0:70");
+        r.set(0, 12);
+        due.is("18 all gone at 71", r.day(4), 3);
+        due.is("18 the greatest time", r.tell(0), 60);
+        due.is("18 two did not wait", r.tell(1), 2);
         NodBench w = with("0p3;0p3;1t0:20;1t0:20;1t0:20");
         due.is("18 gone ones count", w.tell(0), 10);
         due.is("18 gone ones count", w.tell(1), 0);
@@ -97,6 +116,8 @@ final class WouldBeTest {
         // The chooser holds 1 for 17 minutes; plain it would take 0, for 10.
         due.is("19 they wait", y.day(1), 0 + 0 + 9 + 15);
         due.is("19 cost", y.choosers(), 9 + 15 - (9 + 10));
+        NodBench w = with("1p0;0c0:1;0p0;2p0");
+        due.is("19 who was told first", w.choosers(), 9 + 15 - (9 + 10));
         NodBench z = with("0c0:1;0c0:1;0c0:1;5p0");
         due.is("19 they leave 0 to others", z.choosers(), 0 - 7);
         due.is("19 they still choose", z.told(1, 1), 1);
@@ -196,6 +217,11 @@ final class WouldBeTest {
         Due.people(x, "0p3;0p3;1p3;2p0;3p0");
         // By place 29, 34, 45; by shorter 28, 33, 39.
         due.is("24 shorter is less in both", x.best(), 4);
+        NodBench w = with("0p3;0p3;1p0;2t0:99;3t3:99");
+        Due.manners(w, "tp");
+        // By place and shorter 29, 34, 37; by manners 45, 28, 33, if the long one is cut by 1.
+        due.is("24 by place", w.rule(0, 0), 29 + 34 + 37);
+        due.is("24 all but manners", w.best(), 1 | 4);
         NodBench y = with("0p3;0p3;1p3;2p0;3t1:34");
         Due.manners(y, "tp");
         // By place 29, 34, 34 and the tired one goes; by manners 27, 35, 43; by shorter 28, 33, 39.
@@ -294,6 +320,11 @@ final class WouldBeTest {
         due.is("29 nine", x.orders(511), BAD);
         due.is("29 eight", x.orders(510), 40320);
         due.is("29 one", x.orders(256), 1);
+        due.is("29 the first one", x.orders(1), 1);
+        x.word(1, 3);
+        x.word(2, 3);
+        due.is("29 two ahead of one", x.orders(14), 2);
+        x.hush();
         x.word(1, 2);
         x.word(2, 3);
         due.is("29 half", x.orders(6), 1);
