@@ -322,6 +322,11 @@ final class DayTest {
         Due.manners(w, "pt,tl,lp");
         fate("the first told in a ring", w, 0, CUT, 29, 30, 0);
         due.is("16 with the first told", w.day(7), 1);
+        NodBench t = new NodBench();
+        Due.people(t, "1p0;2t0:99;3l0:3;0p3;0p3");
+        Due.manners(t, "tp,lt,pl");
+        fate("the other way round", t, 0, CUT, 29, 30, 0);
+        due.is("16 the other way round", t.day(7), 1);
         NodBench u = new NodBench();
         Due.people(u, "9l0:2;2p0;2t0:99;0p3;0p3");
         Due.manners(u, "pt,tl");

@@ -164,8 +164,14 @@ final class ShopTest {
         due.is("7 the first word names it", x.count(2), 2);
         due.is("7 the words behind it", x.drops(), 1);
         x.hush();
-        x.word(0, 4);
-        x.strike(4);
+        x.word(3, 2);
+        x.word(0, 1);
+        x.strike(0);
+        due.is("7 the first word stays", x.count(2), 1);
+        due.is("7 the first word stays, one down", x.first(), 1 | 4 | 8);
+        x.hush();
+        x.word(0, 3);
+        x.strike(3);
         due.is("7 a word that names it second", x.count(2), 0);
     }
 

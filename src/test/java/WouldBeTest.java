@@ -116,7 +116,7 @@ final class WouldBeTest {
         // The chooser holds 1 for 17 minutes; plain it would take 0, for 10.
         due.is("19 they wait", y.day(1), 0 + 0 + 9 + 15);
         due.is("19 cost", y.choosers(), 9 + 15 - (9 + 10));
-        NodBench w = with("1p0;0c0:1;0p0;2p0");
+        NodBench w = with("2p0;0c0:1;0p0;1p0");
         due.is("19 who was told first", w.choosers(), 9 + 15 - (9 + 10));
         NodBench z = with("0c0:1;0c0:1;0c0:1;5p0");
         due.is("19 they leave 0 to others", z.choosers(), 0 - 7);
@@ -222,6 +222,13 @@ final class WouldBeTest {
         // By place and shorter 29, 34, 37; by manners 45, 28, 33, if the long one is cut by 1.
         due.is("24 by place", w.rule(0, 0), 29 + 34 + 37);
         due.is("24 all but manners", w.best(), 1 | 4);
+        NodBench v = with("0p3;0p3;1t2:77;1p1;1t3:51;4t2:46;1p3");
+        Due.manners(v, "tp");
+        int[][] want = {{212, 53, 155}, {223, 64, 155}, {215, 59, 145}};
+        for (int i = 0; i < 9; i++) {
+            due.is("24 rule " + i / 3 + " " + i % 3, v.rule(i / 3, i % 3), want[i / 3][i % 3]);
+        }
+        due.is("24 the two others do not beat each other, but by place is best", v.best(), 1);
         NodBench y = with("0p3;0p3;1p3;2p0;3t1:34");
         Due.manners(y, "tp");
         // By place 29, 34, 34 and the tired one goes; by manners 27, 35, 43; by shorter 28, 33, 39.
