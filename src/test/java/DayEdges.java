@@ -34,8 +34,10 @@ final class DayEdges {
         due.is("not before it begins", x.at(2, 2), NONE);
         due.is("its last MINUTE", x.at(12, 2), 0);
         due.is("done", x.at(13, 2), 2);
+        due.is("the next begins then", x.fate(2, 2), 13);
         due.is("its last MINUTE by 1", x.at(14, 3), 1);
         due.is("done by 1", x.at(15, 3), 3);
+        due.is("the next begins then", x.fate(3, 2), 15);
         x.cut(0, 0, 1);
         due.is("a CUT of one MINUTE", x.at(3, 2), 0);
         due.is("done", x.at(4, 2), 2);
@@ -566,6 +568,11 @@ final class DayEdges {
         y.cut(0, 1, 11);
         y.cut(1, 1, 1);
         due.is("not by 1", y.fate(3, 2), 30);
+        NodBench z = busy("1p1;2p2;3p0");
+        z.set(7, 2);
+        z.cut(1, 2, 17);
+        due.is("10 by 0", z.fate(4, 2), 30);
+        due.is("17 by 1, where the other one is 18", z.fate(3, 2), 36);
     }
 
     private static void asShort(Due due) {
@@ -604,7 +611,7 @@ final class DayEdges {
     }
 
     private static void ring(Due due) {
-        NodBench x = busy("1p0;2t0:99;3l0:3");
+        NodBench x = busy("1p2;2t1:99;3l0:3");
         Due.manners(x, "pt,tl,lp");
         due.is("the least PLACE", x.fate(2, 2), 30);
         due.is("a QUARREL", x.day(7), 1);

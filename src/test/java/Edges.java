@@ -17,6 +17,8 @@ final class Edges {
     private final Map<String, String> texts = new LinkedHashMap<>();
     private final Map<String, BitSet> covered = new LinkedHashMap<>();
     private String section = "";
+    /** src/breaks/Breaks.java asks for all sentences. */
+    private final boolean isListed = System.getProperty("list") != null;
 
     Edges() throws IOException {
         String[] parts = Files.readString(DOCUMENT).split("(?m)^## ");
@@ -46,9 +48,16 @@ final class Edges {
     /** A sentence, and its test. */
     void says(String words, Consumer<Due> test) {
         cover(words);
+        if (isListed) {
+            System.out.println("= " + section + ": " + words);
+        }
         due.about(section + ", '" + words + "': ");
         int before = due.seen();
-        test.accept(due);
+        try {
+            test.accept(due);
+        } catch (RuntimeException e) {
+            due.isTrue("nothing is thrown, but was " + e, false);
+        }
         due.isTrue("it has a test", due.seen() > before);
         due.about("");
     }

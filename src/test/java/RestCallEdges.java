@@ -247,8 +247,11 @@ final class RestCallEdges {
     private static void image(Due due) {
         NodBench x = scene();
         x.sheet(0, 1, 5);
-        Due.type(x, "9p");
         due.is("kept", x.image(), 1);
+        isTheScene(due, x);
+        changeAll(x);
+        Due.type(x, "9p");
+        x.restore();
         isTheScene(due, x);
         x.sheet(0, 2, 6);
         x.sheet(1, 0, 3);

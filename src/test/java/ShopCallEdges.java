@@ -184,6 +184,7 @@ final class ShopCallEdges {
             due.is("are left", x.strike(left), left);
             due.is("told", x.count(0), left);
             due.is("come", x.day(3) + x.day(5), left);
+            due.is("the first one stays", x.told(0, 0), left == 0 ? BAD : 0);
         }
         due.is("nobody is left", x.strike(0), BAD);
     }

@@ -492,7 +492,7 @@ final class TermsEdges {
             due.is("cut", x.at(29 + 10 * many, 2), 2);
             due.is("cut is over", x.at(30 + 10 * many, 2), NONE);
         }
-        int[] numbers = {0, 0, 0, 9, 1, 70};
+        int[] numbers = {0, 0, 0, 9, 0, 70};
         for (int kind = 0; kind < 6; kind++) {
             if (kind != 2) {
                 NodBench x = Due.with("0p3;0p3");

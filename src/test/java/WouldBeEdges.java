@@ -242,6 +242,15 @@ final class WouldBeEdges {
         due.is("3 MINUTES till 239", y.third(0, 1), 0);
         due.is("3 MINUTES till 239, as dear as to wait", y.third(1, 0), 13);
         due.is("3 MINUTES till 239, as dear as to wait", y.third(1, 1), 3);
+        // 2 takes one at 230, so that 0 takes the others at 232 and 233: else one at 232, and none behind him.
+        NodBench z = Due.with("222p0;222p3;230p0;230p1;230p1");
+        z.cut(0, 1, 1);
+        z.cut(2, 0, 60);
+        due.is("10 MINUTES of 60 till 239", z.third(1, 0), 3);
+        due.is("10 MINUTES, and WAITS of 2 and 3", z.third(1, 1), 10 + 2 + 3);
+        z.set(5, 3);
+        due.is("as day() tells them", z.day(8), 10);
+        due.is("dearer", z.third(2, 1), 2 + 10 + 10);
     }
 
     private static void greatestThird(Due due) {
@@ -312,9 +321,9 @@ final class WouldBeEdges {
         NodBench y = Due.with("0p0;239p0");
         y.cut(0, 0, 1);
         due.is("239 begun, over at 240", y.last(239), 239);
-        NodBench z = Due.with("100t0:1;100c0:2");
-        due.is("GONE is not in vain", z.last(239), 100);
-        z.strike(1);
+        NodBench z = busy("1t0:5;2c0:2");
+        due.is("he who is GONE is not in vain, the other one is", z.last(239), 2);
+        z.strike(3);
         due.is("GONE is not in vain", z.last(239), 240);
     }
 
