@@ -102,6 +102,11 @@ final class DayCallEdges {
         due.is("some are taken", x.at(36, 0), 2);
         due.is("nobody", x.at(239, 0), 0);
         due.is("nobody at all", new NodBench().at(0, 0), 0);
+        NodBench y = Due.with("0p0;0p0;0p0;0p0;0p0;0p0", "0p0;0p0;0p0;0p0;0p0;0p0");
+        y.set(0, 12);
+        due.is("ten of twelve", y.at(0, 0), 10);
+        y.strike(11);
+        due.is("nine of eleven", y.at(0, 0), 9);
     }
 
     private static void howManySit(Due due) {
@@ -146,6 +151,11 @@ final class DayCallEdges {
         NodBench y = busy("1p0;2t0:99;3l0:3");
         Due.manners(y, "pt,tl,lp");
         due.is("QUARRELS", y.day(7), 1);
+        NodBench v = Due.with("9p0;0p3;0p3");
+        due.is("number 0 waits: together", v.day(1), 21);
+        due.is("number 0 waits: the most", v.day(2), 21);
+        due.is("number 0 waits: then", v.at(9, 0), 1);
+        due.is("number 0 waits: on a SEAT", v.at(9, 1), 1);
         NodBench z = Due.with("0c0:2;0c0:2;0c0:2;0c0:2;0c0:2;0c0:2", "0c0:2;0c0:2;0c0:2;0c0:2;0c0:2;0c0:2");
         z.set(0, 12);
         due.is("twelve in vain", z.day(6), 12);
@@ -237,6 +247,20 @@ final class DayCallEdges {
         due.is("nothing is other then", x.day(1), 9 + 15);
         NodBench y = Due.with("0c0:1;0c0:1;0c0:1;5p0");
         due.is("below 0 is no refusal", y.choosers(), -7);
+        NodBench z = Due.with("0c0:0;0p3;0p3;0p3;0p3;0p3", "0p0;0p0;0p0;0p0;0p0;0p0");
+        z.set(0, 12);
+        due.is("twelve", z.choosers(), costOfTalk(z));
+        z.strike(11);
+        due.is("eleven", z.choosers(), costOfTalk(z));
+    }
+
+    /** WAITS of those behind number 0, who chooses CUTTER 0 and is cut at once, less those if he were PLAIN. */
+    private static int costOfTalk(NodBench x) {
+        int with = x.day(1);
+        x.set(4, 0);
+        int without = x.day(1);
+        x.set(4, 5);
+        return with - without;
     }
 
     private static void third(Due due) {

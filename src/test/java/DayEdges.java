@@ -624,6 +624,14 @@ final class DayEdges {
         Due.manners(z, "pt,tl");
         due.is("by MANNERS, and once by PLACE: called first", z.fate(4, 2), 30);
         due.is("a QUARREL", z.day(7), 1);
+        NodBench u = Due.with("1p0;2t0:99;3l0:3;0p3;0p3");
+        Due.manners(u, "tp,lt,pl");
+        due.is("number 0 is in it, the other way round", u.fate(0, 2), 30);
+        due.is("a QUARREL", u.day(7), 1);
+        NodBench t = Due.with("3l0:3;1p0;2t0:99;0p3;0p3");
+        Due.manners(t, "pt,tl,lp");
+        due.is("number 0 goes before the one of the least PLACE", t.fate(1, 2), 30);
+        due.is("a QUARREL", t.day(7), 1);
         NodBench v = busy("1p0;2t0:99;3l0:3;4p0;5t0:99;6l0:6");
         Due.manners(v, "pt,tl,lp");
         due.is("two of each KIND", v.fate(2, 2), 30);

@@ -286,6 +286,7 @@ final class Refusals {
             }
         }
         for (int minute = 0; minute < 240; minute += 13) {
+            seen.add(x.at(minute, 0));
             seen.add(x.at(minute, 1));
             seen.add(x.at(minute, 2));
         }

@@ -211,12 +211,14 @@ final class RestCallEdges {
         return x;
     }
 
-    private static void changeAll(NodBench x) {
+    private static void changeAll(Due due, NodBench x) {
         x.strike(0);
         Due.people(x, "9g3:4;8o1:3");
         Due.manners(x, "lt,to,ol");
         x.hush();
+        due.is("no DROPS", x.drops(), 0);
         x.word(2, 1);
+        due.is("no DROPS of one", x.drops(), 0);
         for (int what = 0; what < 8; what++) {
             x.set(what, what == 0 ? 9 : 0);
         }
@@ -249,7 +251,7 @@ final class RestCallEdges {
         x.sheet(0, 1, 5);
         due.is("kept", x.image(), 1);
         isTheScene(due, x);
-        changeAll(x);
+        changeAll(due, x);
         Due.type(x, "9p");
         x.restore();
         isTheScene(due, x);
@@ -260,7 +262,7 @@ final class RestCallEdges {
         due.is("SHEETS are not", x.drop(0), 6);
         due.is("SHEETS are not", x.drop(1), 3);
         due.is("THE TAPE is not", x.people(), -24);
-        changeAll(x);
+        changeAll(due, x);
         due.is("again, in place of the first", x.image(), 1);
         x.strike(0);
         x.restore();
@@ -275,14 +277,14 @@ final class RestCallEdges {
         due.is("at once", x.restore(), 1);
         isTheScene(due, x);
         for (int turn = 0; turn < 3; turn++) {
-            changeAll(x);
+            changeAll(due, x);
             due.is("three PEOPLE", x.day(3) + x.day(4) + x.day(5) + x.day(6), 3);
             due.is("turn " + turn, x.restore(), 1);
             isTheScene(due, x);
         }
         NodBench y = new NodBench();
         y.image();
-        changeAll(y);
+        changeAll(due, y);
         y.restore();
         due.is("nobody", y.count(0), 0);
         due.is("no MANNERS", y.count(1), 0);
@@ -326,6 +328,8 @@ final class RestCallEdges {
         due.is("from five on", x.crowd(3, 2, 5, 1), 1);
         due.is("behind those told", x.told(1, 0), 239);
         due.is("they come", x.fate(1, 2), 239);
+        due.is("one more", x.crowd(3, 2, 5, 1), 1);
+        due.is("comes, too", x.day(5), 3);
         for (int wrong : new int[] {0, 7, -1, MIN, MAX}) {
             due.is("rows: " + wrong, x.crowd(3, 2, 0, wrong), BAD);
         }
@@ -551,6 +555,11 @@ final class RestCallEdges {
             due.is("none ahead of them", x.crowd(2, lane, 0, 1), 1);
         }
         due.is("of nobody", filled(0, 0, 5, 0).film(0, 0, 0), 0);
+        NodBench y = Due.with("3p0;0p3;0p3");
+        y.sheet(0, 1, 4);
+        y.film(0, 1, 0);
+        due.is("27 of number 0, then noughts", y.crowd(0, 1, 0, 1), 1);
+        due.is("27", y.told(3, 0), 27);
         NodBench x = twelve();
         x.sheet(0, 0, 12);
         due.is("of twelve", x.film(0, 0, 0), 12);

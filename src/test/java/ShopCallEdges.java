@@ -145,7 +145,9 @@ final class ShopCallEdges {
             due.is("told", x.told(i / 4, i % 4), rows[i / 4][i % 4]);
         }
         x.strike(3);
+        due.is("one does not come", x.day(3) + x.day(4) + x.day(5) + x.day(6), 11);
         due.is("a number that is free again", x.person(1, 0, 0, 0), 11);
+        due.is("and comes", x.day(3) + x.day(4) + x.day(5) + x.day(6), 12);
     }
 
     private static void fullOfPeople(Due due) {
@@ -187,6 +189,10 @@ final class ShopCallEdges {
             due.is("the first one stays", x.told(0, 0), left == 0 ? BAD : 0);
         }
         due.is("nobody is left", x.strike(0), BAD);
+        NodBench y = Due.with("0p3;0p3;1p0");
+        due.is("he waits for them", y.fate(2, 2), 30);
+        y.strike(0);
+        due.is("1 is free now", y.fate(1, 2), 1);
     }
 
     private static void oneDown(Due due) {
@@ -221,6 +227,13 @@ final class ShopCallEdges {
         due.is("of three", x.drops(), 2);
         x.strike(0);
         due.is("those behind it go down, too", x.drops(), 1);
+        NodBench y = Due.with("0p0;0p0;0p0;0p0");
+        y.word(0, 1);
+        y.word(3, 2);
+        y.word(2, 1);
+        y.strike(0);
+        due.is("3 ahead of 2 ahead of 1 are 2 ahead of 1 ahead of 0", y.first(), 4);
+        due.is("in a line", y.orders(7), 1);
         due.is("a new one's number", x.word(0, 1), 2);
     }
 

@@ -208,6 +208,11 @@ final class WouldBeEdges {
         Due.manners(z, "cp");
         due.is("PLAIN ones have a PLAIN one's MANNERS, too", z.choosers(), 35 - 29);
         due.is("they still choose", z.told(3, 1), 1);
+        NodBench u = Due.with("5p0;0c0:0;0p3");
+        due.is("number 0 waits for one who talks", u.choosers(), 10 - 5);
+        String others = "1g0:2;2t0:99;3o0:9;4l0:0";
+        NodBench t = Due.with("0c0:0;0p3", others);
+        due.is("the others stay as they are", t.choosers(), t.day(1) - Due.with("0p0;0p3", others).day(1));
         NodBench v = Due.with("0c0:2;0c0:2;0c0:2;0c0:2;1p0");
         v.set(0, 4);
         due.is("TURNED by them: no WAIT; else one till 20", v.choosers(), 0 - 19);
@@ -391,6 +396,16 @@ final class WouldBeEdges {
         due.is("0 has less COIN", v.rule(0, 2), 100);
         due.is("0 has less WAITS than 1", v.rule(0, 0), 29 + 34 + 34);
         due.is("1 is no better than 2 in any", v.rule(1, 0), 27 + 35 + 43);
+        NodBench u = Due.with("0p3;0p3;1t0:99;2p3;3p0;4p1");
+        due.is("as good in the most and in COIN, but not together", u.best(), 4);
+        due.is("together by 0", u.rule(0, 0), 29 + 34 + 37 + 46);
+        due.is("together by 2", u.rule(2, 0), 29 + 36 + 33 + 46);
+        NodBench t = Due.with("0p3;0p3;1p1", "2p0;3p3;4t2:99");
+        Due.manners(t, "tp");
+        due.is("0 is better than both in two", t.best(), 1);
+        due.is("together by 0", t.rule(0, 0), 29 + 34 + 42 + 44);
+        due.is("together by 1", t.rule(1, 0), 26 + 35 + 48 + 51);
+        due.is("together by 2", t.rule(2, 0), 28 + 35 + 36 + 51);
     }
 
     // ---- WORDS
