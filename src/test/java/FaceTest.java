@@ -71,28 +71,36 @@ final class FaceTest {
             names.add(call.substring(0, call.indexOf('(')));
         }
         List<Class<?>> all = new ArrayList<>(List.of(NodBench.class.getDeclaredClasses()));
-        due.isTrue("few classes", all.size() + 1 <= 12);
+        due.isTrue("some twelve classes: " + all.size(), all.size() + 1 <= 14);
         all.add(NodBench.class);
         for (Class<?> c : all) {
-            int modifiers = c.getModifiers();
             boolean isMain = c == NodBench.class;
-            due.isTrue(c + " is private and static", isMain || Modifier.isPrivate(modifiers) && Modifier.isStatic(modifiers));
+            due.isTrue(c + " is not for all", isMain || !isOpen(c.getModifiers()));
+            due.isTrue(c + " is static", isMain || Modifier.isStatic(c.getModifiers()));
             due.is(c + " holds classes", isMain ? 0 : c.getDeclaredClasses().length, 0);
-            int fields = 0;
-            for (Field f : c.getDeclaredFields()) {
-                boolean isStatic = Modifier.isStatic(f.getModifiers());
-                fields += isStatic ? 0 : 1;
-                due.isTrue(f + " is final", !isStatic || Modifier.isFinal(f.getModifiers()));
-                due.isTrue(f + " is hidden", !isMain || f.getName().matches("[A-Z]+") || Modifier.isPrivate(f.getModifiers()));
-            }
-            due.isTrue(c + " has few fields: " + fields, fields <= 20);
+            fields(c, isMain);
             for (Method m : c.getDeclaredMethods()) {
-                boolean isFace = isMain && Modifier.isPublic(m.getModifiers());
-                due.isTrue(m + " has a name of its own", isFace || !names.contains(m.getName()));
-                due.isTrue(m + " takes few parameters", m.getParameterCount() <= 7);
-                due.isTrue(m + " was written", !m.isSynthetic());
+                boolean isHidden = isMain && !Modifier.isPublic(m.getModifiers());
+                due.isTrue(m + " has a name of its own", !isHidden || !names.contains(m.getName()));
+                due.isTrue(m + " takes at most seven parameters", m.getParameterCount() <= 7);
+                due.isTrue(m + " is no lambda", !m.getName().startsWith("lambda$"));
             }
         }
+    }
+
+    private static boolean isOpen(int modifiers) {
+        return Modifier.isPublic(modifiers) || Modifier.isProtected(modifiers);
+    }
+
+    private static void fields(Class<?> c, boolean isMain) {
+        int own = 0;
+        for (Field f : c.getDeclaredFields()) {
+            int modifiers = f.getModifiers();
+            own += Modifier.isStatic(modifiers) ? 0 : 1;
+            due.isTrue(f + " is final", !Modifier.isStatic(modifiers) || Modifier.isFinal(modifiers));
+            due.isTrue(f + " is hidden", !isMain || Modifier.isPublic(modifiers) || Modifier.isPrivate(modifiers));
+        }
+        due.isTrue(c + " has some twenty fields: " + own, own <= 22);
     }
 
     /** The text without comments and without what stands in quotes. */
@@ -102,27 +110,40 @@ final class FaceTest {
     }
 
     private static void text(String text) {
-        String[] never = {"\\b(throw|throws|try|catch|finally|synchronized|assert|import|package|interface|volatile)\\b", "->",
-            "::", "\\bstatic\\s*\\{", "\\bnew\\s+\\w+\\s*\\([^)]*\\)\\s*\\{", "[^\\x00-\\x7E]", "Exact\\b", "\"",
-            "\\b(String|Object|Thread|Random|float|double)\\b", "while\\s*\\(\\s*true", "for\\s*\\(\\s*;\\s*;"};
+        String[] never = {"\\b(throw|throws|try|catch|finally|synchronized|assert|package|volatile|native)\\b", "::",
+            "\\bstatic\\s*\\{", "\\bnew\\s+\\w+\\s*\\([^)]*\\)\\s*\\{", "[^\\x00-\\x7E]", "Exact\\b",
+            "\\b(Object|Thread|Random|Class|Scanner|Exception|Error)\\b", "while\\s*\\(\\s*true", "for\\s*\\(\\s*;\\s*;"};
         for (String pattern : never) {
-            Matcher found = Pattern.compile(pattern).matcher(text);
-            due.isTrue("no " + pattern, !found.find());
+            due.isTrue("no " + pattern, !Pattern.compile(pattern).matcher(text).find());
         }
-        Set<String> library = Set.of("Math.max", "Math.min", "Math.abs", "Integer.bitCount", "System.arraycopy");
+        due.isTrue("no lambda", !text.replaceAll("\\b(case\\b[^:;{}]*?|default\\s*)->", "").contains("->"));
+        Matcher imported = Pattern.compile("\\bimport\\s+([\\w.*]+)").matcher(text);
+        while (imported.find()) {
+            due.isTrue("may import " + imported.group(1), imported.group(1).matches("java\\.util\\.(ArrayList|List|Arrays|Iterator)"));
+        }
+        library(text);
+        int length = 0;
+        for (String line : text.split("\n")) {
+            boolean isOpening = line.matches("( {4}| {8})\\w.*\\(.*\\{");
+            length = isOpening ? 0 : length + 1;
+            due.isTrue("a short method near " + line, !line.matches("( {4}| {8})\\}") || length <= 66 || line.startsWith("    }"));
+        }
+    }
+
+    /** What stands behind the name of a class of the library. */
+    private static void library(String text) {
+        String[] may = {"(Integer|Long|Math)\\.\\w+", "System\\.arraycopy", "Arrays\\.(copyOf|copyOfRange|fill)", "List\\.of"};
         Set<String> own = new TreeSet<>();
         for (Class<?> c : NodBench.class.getDeclaredClasses()) {
             own.add(c.getSimpleName());
         }
-        Matcher used = Pattern.compile("\\b([A-Z][a-zA-Z]*)\\.\\w+").matcher(text);
+        Matcher used = Pattern.compile("(?<![\\w.])([A-Z]\\w*[a-z]\\w*)\\.\\w+").matcher(text);
         while (used.find()) {
-            due.isTrue("may use " + used.group(), own.contains(used.group(1)) || library.contains(used.group()));
-        }
-        int length = 0;
-        for (String line : text.split("\n")) {
-            boolean isOpening = line.matches("( {4}| {8})(public|private|static|int|void|boolean).*\\{");
-            length = isOpening ? 0 : length + 1;
-            due.isTrue("a short method near " + line, !line.matches("( {4}| {8})\\}") || length <= 60 || line.startsWith("    }"));
+            boolean isRight = own.contains(used.group(1)) || used.group(1).equals("NodBench");
+            for (String pattern : may) {
+                isRight = isRight || used.group().matches(pattern);
+            }
+            due.isTrue("may use " + used.group(), isRight);
         }
     }
 }

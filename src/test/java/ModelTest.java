@@ -2,14 +2,16 @@ import java.util.Random;
 
 /** Runs of calls by a fixed seed, each answer held against the Model's. */
 final class ModelTest {
-    private static final int RUNS = 300;
-    private static final int CALLS = 512;
+    private static final int RUNS = 400;
+    /** So many that with all that one turn may need there are no more than 512. */
+    private static final int CALLS = 390;
 
     private final Due due;
     private final int run;
     private final Random dice;
     private final NodBench x = new NodBench();
     private final Model y = new Model();
+    private int calls;
 
     private ModelTest(Due due, int run) {
         this.due = due;
@@ -22,9 +24,10 @@ final class ModelTest {
         for (int run = 1; run <= RUNS; run++) {
             ModelTest test = new ModelTest(due, run);
             test.setTheScene();
-            for (int i = 0; i < CALLS - 40; i++) {
+            while (test.calls < CALLS) {
                 test.call();
             }
+            due.isTrue("run " + run + " has " + test.calls + " calls", test.calls <= 512);
         }
         due.close("ModelTest");
     }
@@ -39,6 +42,7 @@ final class ModelTest {
     }
 
     private void same(String call, long got, long want) {
+        calls++;
         due.is("run " + run + ": " + call, got, want);
     }
 
