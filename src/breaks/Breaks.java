@@ -38,7 +38,7 @@ public final class Breaks {
         Path dir = Files.createTempDirectory("breaks");
         Path tests = dir.resolve("tests");
         run(tests, "javac", "--release", "17", "-d", tests.toString(), SOURCE.toString(), "src/test/java/Due.java",
-            "src/test/java/Edges.java", "src/test/java/EdgeTest.java", "src/test/java/Refusals.java",
+            "src/test/java/Edges.java", "src/test/java/EdgeTest.java", "src/test/java/Refusals.java", "src/test/java/FaceEdges.java",
             "src/test/java/TermsEdges.java", "src/test/java/DayEdges.java", "src/test/java/WouldBeEdges.java",
             "src/test/java/ShopCallEdges.java", "src/test/java/DayCallEdges.java", "src/test/java/RestCallEdges.java");
         String source = Files.readString(SOURCE);

@@ -8,7 +8,7 @@ import java.util.function.Consumer;
 
 /**
  * The document's sentences, each with a test of its own. Each is quoted word for word, so that it is known which one fails,
- * and so that a sentence of the Terms or of a Promise that nobody quotes is told as wrong.
+ * and so that a sentence that nobody quotes is told as wrong.
  */
 final class Edges {
     private static final Path DOCUMENT = Path.of("../shared/DOC.md");
@@ -85,9 +85,6 @@ final class Edges {
     void close(String name) {
         for (Map.Entry<String, String> entry : texts.entrySet()) {
             String title = entry.getKey();
-            if (!title.startsWith("Promise") && !title.equals("Terms")) {
-                continue;
-            }
             StringBuilder left = new StringBuilder();
             for (int i = 0; i < entry.getValue().length(); i++) {
                 boolean isQuoted = covered.get(title).get(i);

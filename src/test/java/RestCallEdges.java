@@ -1,4 +1,4 @@
-/** Promises 25 to 36, and how many calls an object is used for, sentence by sentence. */
+/** Promises 25 to 36, sentence by sentence. */
 final class RestCallEdges {
     private static final int BAD = NodBench.BAD, NOT = NodBench.NOT, FULL = NodBench.FULL, NONE = NodBench.NONE;
     private static final int NULL = NodBench.NULL, CAST = NodBench.CAST, INDEX = NodBench.INDEX, SIZE = NodBench.SIZE;
@@ -8,8 +8,6 @@ final class RestCallEdges {
     }
 
     static void tell(Edges edges) {
-        edges.section("What it is");
-        edges.says("An object is used for at most 512 calls after it has been made;", RestCallEdges::calls);
         words(edges);
         images(edges);
         crowd(edges);
@@ -77,15 +75,6 @@ final class RestCallEdges {
         edges.says("NULL;", RestCallEdges::filmOfNothing);
         edges.says("CAST;", RestCallEdges::filmOfAnotherLane);
         edges.says("INDEX (of none, too: from below 0, or above how many there are).", RestCallEdges::filmTooFar);
-    }
-
-    private static void calls(Due due) {
-        NodBench x = new NodBench();
-        for (int call = 1; call <= 510; call++) {
-            due.is("call " + call, x.set(0, call % 12 + 1), call == 1 ? 7 : (call - 1) % 12 + 1);
-        }
-        due.is("call 511", x.person(0, 0, 0, 0), 0);
-        due.is("call 512", x.fate(0, 0), 3);
     }
 
     // ---- WORDS

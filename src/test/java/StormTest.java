@@ -10,6 +10,9 @@ final class StormTest {
     private static final int[] EDGES = {0, 1, 2, 3, 4, 5, 6, 7, 8, 9, 10, 11, 12, 13, 20, 24, 25, 40, 60, 99, 100, 127, 239,
         240, 255, 511, 4095, 4096, 65535, -1, -2, -20, -128, Integer.MAX_VALUE, Integer.MAX_VALUE - 3, Integer.MIN_VALUE};
 
+    /** More than an object is used for: nothing may be thrown then, either. */
+    private static final int CALLS = 600;
+
     public static void main(String[] args) throws ReflectiveOperationException {
         Due due = new Due();
         List<Method> calls = new ArrayList<>(List.of(NodBench.class.getDeclaredMethods()));
@@ -26,7 +29,7 @@ final class StormTest {
         Random dice = new Random(run);
         NodBench x = new NodBench();
         long sum = 0;
-        for (int i = 0; i < 512; i++) {
+        for (int i = 0; i < CALLS; i++) {
             boolean isPerson = dice.nextInt(12) == 0;
             Method call = calls.get(dice.nextInt(calls.size()));
             int answer;

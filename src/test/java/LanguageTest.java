@@ -1,74 +1,31 @@
 import java.io.IOException;
-import java.lang.reflect.Constructor;
 import java.lang.reflect.Field;
 import java.lang.reflect.Method;
 import java.lang.reflect.Modifier;
 import java.nio.file.Files;
 import java.nio.file.Path;
 import java.util.ArrayList;
-import java.util.Arrays;
 import java.util.List;
 import java.util.Set;
 import java.util.TreeSet;
 import java.util.regex.Matcher;
 import java.util.regex.Pattern;
 
-/** The public face, and the rules of LANGUAGE.md that can be seen from outside or from the text. */
-final class FaceTest {
+/** The rules of LANGUAGE.md that can be seen in the compiled class or in its text. */
+final class LanguageTest {
     private static final Path SOURCE = Path.of("src/main/java/NodBench.java");
-    private static final String FACE = "at(int,int) before(int,int) best() choosers() count(int) crowd(int,int,int,int)"
-        + " cut(int,int,int) day(int) drop(int) drops() fate(int,int) film(int,int,int) first() hush() image()"
-        + " item(int,int,int,int) last(int) manners() more(int,int,int,int,int) orders(int) people()"
-        + " person(int,int,int,int) price(int,int) restore() rounds() rule(int,int) set(int,int) sheet(int,int,int)"
-        + " strike(int) tell(int) third(int,int) told(int,int) type(long,int) word(int,int) worth(int)";
     private static final Due due = new Due();
 
-    public static void main(String[] args) throws IOException, ReflectiveOperationException {
-        constants();
-        face();
+    public static void main(String[] args) throws IOException {
         inside();
         text(plain(Files.readString(SOURCE)));
-        due.close("FaceTest");
-    }
-
-    private static void constants() throws ReflectiveOperationException {
-        String[] names = {"BAD", "NOT", "FULL", "NONE", "NULL", "CAST", "INDEX", "SIZE"};
-        int[] values = {-1, -2, -3, -4, -11, -12, -13, -14};
-        for (int i = 0; i < names.length; i++) {
-            Field field = NodBench.class.getField(names[i]);
-            due.isTrue(names[i] + " is a constant", Modifier.isStatic(field.getModifiers())
-                && Modifier.isFinal(field.getModifiers()) && field.getType() == int.class);
-            due.is(names[i], field.getInt(null), values[i]);
-        }
-        due.is("no other public field", NodBench.class.getFields().length, names.length);
-    }
-
-    private static void face() {
-        due.isTrue("public and final", Modifier.isPublic(NodBench.class.getModifiers())
-            && Modifier.isFinal(NodBench.class.getModifiers()));
-        Constructor<?>[] made = NodBench.class.getDeclaredConstructors();
-        due.isTrue("one public constructor", made.length == 1 && Modifier.isPublic(made[0].getModifiers())
-            && made[0].getParameterCount() == 0);
-        Set<String> seen = new TreeSet<>();
-        for (Method m : NodBench.class.getDeclaredMethods()) {
-            boolean isPublic = Modifier.isPublic(m.getModifiers());
-            due.isTrue(m + " is public or private", isPublic || Modifier.isPrivate(m.getModifiers()));
-            if (isPublic) {
-                due.isTrue(m + " answers an int", m.getReturnType() == int.class);
-                List<String> types = new ArrayList<>();
-                for (Class<?> type : m.getParameterTypes()) {
-                    types.add(type.getName());
-                }
-                seen.add(m.getName() + "(" + String.join(",", types) + ")");
-            }
-        }
-        due.isTrue("the face: " + seen, seen.equals(new TreeSet<>(Arrays.asList(FACE.split(" ")))));
+        due.close("LanguageTest");
     }
 
     private static void inside() {
         Set<String> names = new TreeSet<>();
-        for (String call : FACE.split(" ")) {
-            names.add(call.substring(0, call.indexOf('(')));
+        for (Method m : NodBench.class.getMethods()) {
+            names.add(m.getName());
         }
         List<Class<?>> all = new ArrayList<>(List.of(NodBench.class.getDeclaredClasses()));
         due.isTrue("some twelve classes: " + all.size(), all.size() + 1 <= 14);
